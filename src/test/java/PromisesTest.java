@@ -43,6 +43,7 @@ public final class PromisesTest {
         promise15BinFor();
         promise16Foresee();
         promise17Fate();
+        promise16and17AheadAsItComes();
         promise18Reaches();
         promise19Barnacles();
         promise20Digest();
@@ -491,6 +492,13 @@ public final class PromisesTest {
         check.same("got by all", post.drowned(0, 3) + post.drowned(1, 3), 149);
         check.same("written, full", post.drowned(0, 4), 1);
         check.same("letters", post.count(3), 150);
+        check.sameMean("barnacles(), full", post.barnacles(), 0.0);
+        check.rows("bin 0, full", binRow(post, 0), 0, 20, 0, 1, 0);
+        post.beginTides(0);
+        check.same("foresee(1, 2), full", post.foresee(1, 2), 1);
+        check.same("pass(1), full, dry", post.pass(1), 0);
+        check.same("the answer is here", post.letter(149, STATE_OF), 5);
+        check.same("digest(), full", post.digest(), digestOf(post));
     }
 
     private static void promise13OnTheWay() {
@@ -577,6 +585,18 @@ public final class PromisesTest {
         odd.setCrew(9, 0);
         odd.pass(1);
         check.rows("no scraping in the office", column(odd, GROWTH), 0, 2);
+
+        DrownedPost again = still(60);
+        again.addBin(50, 1);
+        again.addDrowned(99, 0, 1);
+        again.setCrew(9, 9);
+        again.bring(0, 9, 60);
+        again.pass(2);
+        again.beginTides(0);
+        again.pass(1);
+        check.rows("scraped in one hour", column(again, GROWTH), 2);
+        again.pass(1);
+        check.rows("scraped in the next hour too", column(again, GROWTH), 0);
     }
 
     private static void promise13Sorting() {
@@ -676,6 +696,10 @@ public final class PromisesTest {
         full.bring(0, 1, 60);
         full.pass(1);
         check.same("binFor(0), all full", full.binFor(0), -1);
+        for (int bin = 1; bin < 10; bin++) {
+            full.addBin(bin, 1);
+            check.same("binFor(0) of " + (bin + 1) + " bins", full.binFor(0), bin);
+        }
     }
 
     private static void promise16Foresee() {
@@ -711,6 +735,43 @@ public final class PromisesTest {
         check.rows("foresee(1 to 5, 2) counts from now on", foreseen(post, 2, 5), 0, 0, 0, 0, 1);
         post.beginTides(99);
         check.same("foresee(100, 2) with the table of now", post.foresee(100, 2), 0);
+    }
+
+    /** An office in the middle of its work, in which everything stands in more than one row. */
+    private static DrownedPost busy() {
+        DrownedPost post = new DrownedPost();
+        int[] binHeights = {60, 15, 40};
+        int[] drownedHeights = {70, 20, 50, 90};
+        for (int bin = 0; bin < 3; bin++) {
+            post.addBin(binHeights[bin], 3 + bin);
+        }
+        for (int one = 0; one < 4; one++) {
+            post.addDrowned(drownedHeights[one], (one + 1) % 3, 3 + 2 * one);
+        }
+        post.setCrew(1, 4);
+        for (int i = 0; i < 24; i++) {
+            post.bring(i % 4, 1 + i * 5 % 9, 9 + i * 7 % 40);
+        }
+        post.pass(19);
+        return post;
+    }
+
+    private static void promise16and17AheadAsItComes() {
+        for (int hours = 1; hours <= 60; hours++) {
+            DrownedPost post = busy();
+            int[] foreseen = {post.foresee(hours, 0), post.foresee(hours, 1), post.foresee(hours, 2)};
+            int[] before = counts(post);
+            int[] fates = new int[before[3]];
+            for (int letter = 0; letter < fates.length; letter++) {
+                fates[letter] = post.fate(letter, hours);
+            }
+            check.rows("counts behind looks ahead", counts(post), before);
+            check.same("pass(" + hours + ")", post.pass(hours), foreseen[0]);
+            int[] now = counts(post);
+            check.rows("foreseen for " + hours + " hours", foreseen,
+                    now[6] - before[6], now[7] - before[7], now[9] - before[9]);
+            check.rows("fates for " + hours + " hours", fates, Arrays.copyOf(column(post, STATE_OF), fates.length));
+        }
     }
 
     private static int[] foreseen(DrownedPost post, int what, int most) {
@@ -827,8 +888,12 @@ public final class PromisesTest {
         post.beginTides(50);
         check.same("takeOut(2)", post.takeOut(2), 1);
         check.sameMean("barnacles() without the letter in the office", post.barnacles(), 1.5);
+        post.beginTides(0);
+        check.same("takeOut(0)", post.takeOut(0), 0);
+        check.sameMean("barnacles() of one letter", post.barnacles(), 2.0);
+        post.beginTides(50);
         post.setCrew(0, 0);
-        post.pass(2);
+        check.same("pass(3)", post.pass(3), 1);
         check.sameMean("barnacles() of what has gone down", post.barnacles(), 0.0);
     }
 
