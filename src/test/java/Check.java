@@ -38,7 +38,7 @@ final class Check {
     }
 
     /** The call must throw exactly this exception by itself, and leave the object as it was. */
-    void refuses(String what, Class<? extends RuntimeException> due, DrownedPost post, Runnable call) {
+    void refuses(String what, Class<? extends RuntimeException> due, CountedPost post, Runnable call) {
         long before = post.digest();
         Class<?> got = null;
         try {

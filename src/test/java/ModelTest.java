@@ -2,13 +2,14 @@ import java.util.function.LongSupplier;
 
 /** Long runs of calls, right and wrong ones, on the program and on SlowOffice: both must answer alike. */
 public final class ModelTest {
-    private static final int RUNS = 200;
-    private static final int CALLS = 512;
+    private static final int RUNS = 400;
+    /** The most that one round asks for: a new table with five heights more, and the digest behind it. */
+    private static final int CALLS_OF_A_ROUND = 7;
 
     private static final Check check = new Check();
     private static long seed;
 
-    private DrownedPost post;
+    private CountedPost post;
     private SlowOffice slow;
     private String run;
 
@@ -44,7 +45,7 @@ public final class ModelTest {
     }
 
     private void go(int number) {
-        post = new DrownedPost();
+        post = new CountedPost();
         slow = new SlowOffice();
         run = "run " + number + ", call ";
         // Each run has its own mind: how often letters come, how long hours last, how strong seals are.
@@ -52,7 +53,7 @@ public final class ModelTest {
         int longestPass = below(4) == 0 ? 200 : within(1, 12);
         int weakestSeal = within(1, 40);
         furnish();
-        for (int call = 0; call < CALLS; call++) {
+        for (int call = 0; post.callsLeft() >= CALLS_OF_A_ROUND; call++) {
             int kind = below(100);
             if (kind < letterShare) {
                 bring(call, weakestSeal);
@@ -101,7 +102,7 @@ public final class ModelTest {
     }
 
     private void bring(int call, int weakestSeal) {
-        int to = near(0, post.count(2) - 1);
+        int to = near(0, slow.count(2) - 1);
         int weight = near(1, 9);
         int seal = below(8) == 0 ? near(1, 60) : within(weakestSeal, 60);
         same(call + " bring " + to + " " + weight + " " + seal,
@@ -114,9 +115,9 @@ public final class ModelTest {
     }
 
     private void other(int call, int kind) {
-        int letter = near(0, post.count(3) - 1);
-        int one = near(0, post.count(2) - 1);
-        int bin = near(0, post.count(1) - 1);
+        int letter = near(0, slow.count(3) - 1);
+        int one = near(0, slow.count(2) - 1);
+        int bin = near(0, slow.count(1) - 1);
         int height = near(0, 99);
         int hours = below(3) == 0 ? near(1, 100) : within(1, 12);
         int what = near(0, 12);
