@@ -4,6 +4,16 @@ import java.util.Arrays;
 final class Check {
     private int right;
     private int wrong;
+    private String place = "";
+
+    /** What stands before each fault that is told from here on. */
+    void at(String newPlace) {
+        place = newPlace + ": ";
+    }
+
+    int answers() {
+        return right + wrong;
+    }
 
     void same(String what, long got, long due) {
         if (got == due) {
@@ -55,7 +65,7 @@ final class Check {
 
     void fail(String text) {
         wrong++;
-        System.out.println("  wrong: " + text);
+        System.out.println("  wrong: " + place + text);
     }
 
     void end(String name) {

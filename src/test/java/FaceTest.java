@@ -43,7 +43,9 @@ public final class FaceTest {
     public static void main(String[] args) throws IOException {
         faceIsThatOfTheDocument();
         classesInsideKeepToTheirRules();
-        sourceKeepsToTheLanguage(Files.readAllLines(Path.of("src/main/java/DrownedPost.java")));
+        List<String> source = Files.readAllLines(Path.of("src/main/java/DrownedPost.java"));
+        interfaceSaysWhatComes(source);
+        sourceKeepsToTheLanguage(source);
         check.end("FaceTest");
     }
 
@@ -94,6 +96,25 @@ public final class FaceTest {
                 check.holds(field + " is not static", !Modifier.isStatic(field.getModifiers()));
             }
         }
+    }
+
+    /** 'Ahead of the calls .. the interface says: ----' and what it says. */
+    private static void interfaceSaysWhatComes(List<String> lines) {
+        String[] order = {"// ---- the quay", "beginTides", "addTide", "tide", "addBin", "setCrew",
+            "// ---- the drowned and their letters", "addDrowned", "bring", "takeOut", "letter", "drowned", "bin",
+            "// ---- hours", "pass", "count", "binFor",
+            "// ---- looking ahead", "foresee", "fate", "reaches", "barnacles", "digest"};
+        int at = 0;
+        for (String next : order) {
+            while (at < lines.size() && !tells(lines.get(at).trim(), next)) {
+                at++;
+            }
+            check.holds("the source tells " + next + " in the order of the document", at < lines.size());
+        }
+    }
+
+    private static boolean tells(String line, String next) {
+        return line.equals(next) || line.startsWith("public ") && line.contains(" " + next + "(");
     }
 
     private static void sourceKeepsToTheLanguage(List<String> lines) {

@@ -1,21 +1,7 @@
 import java.util.Arrays;
 
 /** The numbered promises one by one: ordinary inputs, the named edges, and wrong inputs. */
-public final class PromisesTest {
-    private static final Class<IllegalArgumentException> ARGUMENT = IllegalArgumentException.class;
-    private static final Class<IllegalStateException> STATE = IllegalStateException.class;
-    private static final Class<IndexOutOfBoundsException> INDEX = IndexOutOfBoundsException.class;
-
-    private static final int TO = 0;
-    private static final int WEIGHT = 1;
-    private static final int SEAL = 2;
-    private static final int STATE_OF = 3;
-    private static final int GROWTH = 4;
-    private static final int BIN = 5;
-    private static final int HELD = 6;
-    private static final int BEFORE = 7;
-    private static final int ANSWERED = 8;
-
+public final class PromisesTest extends Scene {
     private static final Check check = new Check();
 
     public static void main(String[] args) {
@@ -48,54 +34,6 @@ public final class PromisesTest {
         promise19Barnacles();
         promise20Digest();
         check.end("PromisesTest");
-    }
-
-    private static int[] counts(CountedPost post) {
-        int[] row = new int[13];
-        for (int what = 0; what < row.length; what++) {
-            row[what] = post.count(what);
-        }
-        return row;
-    }
-
-    private static int[] letterRow(CountedPost post, int letter) {
-        int[] row = new int[9];
-        for (int what = 0; what < row.length; what++) {
-            row[what] = post.letter(letter, what);
-        }
-        return row;
-    }
-
-    private static int[] drownedRow(CountedPost post, int one) {
-        int[] row = new int[5];
-        for (int what = 0; what < row.length; what++) {
-            row[what] = post.drowned(one, what);
-        }
-        return row;
-    }
-
-    private static int[] binRow(CountedPost post, int bin) {
-        int[] row = new int[5];
-        for (int what = 0; what < row.length; what++) {
-            row[what] = post.bin(bin, what);
-        }
-        return row;
-    }
-
-    /** What letter() tells of every letter under one number. */
-    private static int[] column(CountedPost post, int what) {
-        int[] row = new int[post.count(3)];
-        for (int letter = 0; letter < row.length; letter++) {
-            row[letter] = post.letter(letter, what);
-        }
-        return row;
-    }
-
-    /** An office in which the tide stands still. */
-    private static CountedPost still(int tide) {
-        CountedPost post = new CountedPost();
-        post.beginTides(tide);
-        return post;
     }
 
     private static void promise1NewObject() {
@@ -736,25 +674,6 @@ public final class PromisesTest {
         check.same("foresee(100, 2) with the table of now", post.foresee(100, 2), 0);
     }
 
-    /** An office in the middle of its work, in which everything stands in more than one row. */
-    private static CountedPost busy() {
-        CountedPost post = new CountedPost();
-        int[] binHeights = {60, 15, 40};
-        int[] drownedHeights = {70, 20, 50, 90};
-        for (int bin = 0; bin < 3; bin++) {
-            post.addBin(binHeights[bin], 3 + bin);
-        }
-        for (int one = 0; one < 4; one++) {
-            post.addDrowned(drownedHeights[one], (one + 1) % 3, 3 + 2 * one);
-        }
-        post.setCrew(1, 4);
-        for (int i = 0; i < 24; i++) {
-            post.bring(i % 4, 1 + i * 5 % 9, 9 + i * 7 % 40);
-        }
-        post.pass(19);
-        return post;
-    }
-
     private static void promise16and17AheadAsItComes() {
         for (int hours = 1; hours <= 60; hours++) {
             CountedPost post = busy();
@@ -771,14 +690,6 @@ public final class PromisesTest {
                     now[6] - before[6], now[7] - before[7], now[9] - before[9]);
             check.rows("fates for " + hours + " hours", fates, Arrays.copyOf(column(post, STATE_OF), fates.length));
         }
-    }
-
-    private static int[] foreseen(CountedPost post, int what, int most) {
-        int[] row = new int[most];
-        for (int hours = 1; hours <= most; hours++) {
-            row[hours - 1] = post.foresee(hours, what);
-        }
-        return row;
     }
 
     private static void promise17Fate() {
@@ -804,14 +715,6 @@ public final class PromisesTest {
         post.setCrew(0, 0);
         post.bring(0, 1, 60);
         check.same("fate(3, 100) in the office", post.fate(3, 100), 0);
-    }
-
-    private static int[] fates(CountedPost post, int letter, int most) {
-        int[] row = new int[most];
-        for (int hours = 1; hours <= most; hours++) {
-            row[hours - 1] = post.fate(letter, hours);
-        }
-        return row;
     }
 
     private static void promise18Reaches() {
@@ -938,14 +841,6 @@ public final class PromisesTest {
         }
         for (int letter = 0; letter < post.count(3); letter++) {
             d = digestBehind(d, letterRow(post, letter));
-        }
-        return d;
-    }
-
-    private static long digestBehind(long start, int... numbers) {
-        long d = start;
-        for (int number : numbers) {
-            d = d * 31 + number;
         }
         return d;
     }
