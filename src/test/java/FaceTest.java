@@ -5,10 +5,13 @@ import java.lang.reflect.Method;
 import java.lang.reflect.Modifier;
 import java.nio.file.Files;
 import java.nio.file.Path;
+import java.util.ArrayList;
 import java.util.Arrays;
 import java.util.List;
 import java.util.Set;
 import java.util.TreeSet;
+import java.util.regex.Matcher;
+import java.util.regex.Pattern;
 import java.util.stream.Collectors;
 
 /** The public face of the document, and the rules of ../shared/LANGUAGE.md that can be read off. */
@@ -44,8 +47,11 @@ public final class FaceTest {
         faceIsThatOfTheDocument();
         classesInsideKeepToTheirRules();
         List<String> source = Files.readAllLines(Path.of("src/main/java/DrownedPost.java"));
+        declarationsAreThoseOfTheDocument(source);
         interfaceSaysWhatComes(source);
         sourceKeepsToTheLanguage(source);
+        sourceKeepsToTheLibrary(source);
+        methodsStayShort(source);
         check.end("FaceTest");
     }
 
@@ -92,10 +98,32 @@ public final class FaceTest {
                 check.holds(method + " bears no name of the face", !names.contains(method.getName()));
                 check.holds(method + " takes at most seven", method.getParameterCount() <= 7);
             }
+            check.holds(inside + " has at most twenty fields", inside.getDeclaredFields().length <= 20);
             for (Field field : inside.getDeclaredFields()) {
                 check.holds(field + " is not static", !Modifier.isStatic(field.getModifiers()));
             }
         }
+    }
+
+    /** Word by word, the parameters' names and the exceptions' order with them. */
+    private static void declarationsAreThoseOfTheDocument(List<String> lines) throws IOException {
+        List<String> declared = new ArrayList<>();
+        StringBuilder open = null;
+        for (String line : lines) {
+            if (line.startsWith("    public ")) {
+                open = new StringBuilder();
+            }
+            if (open != null) {
+                open.append(' ').append(line.trim());
+                if (line.endsWith(" {")) {
+                    declared.add(open.substring(1, open.length() - 2));
+                    open = null;
+                }
+            }
+        }
+        List<String> due = Document.declarations();
+        check.same("declarations in the document", due.size(), 20);
+        check.holds("the declarations " + declared, declared.equals(due));
     }
 
     /** 'Ahead of the calls .. the interface says: ----' and what it says. */
@@ -130,5 +158,32 @@ public final class FaceTest {
             check.holds("line " + (i + 1) + " makes no object in a call", !line.contains("new ")
                     || line.contains("throw new ") || line.contains(" = new ") || line.trim().startsWith("/**"));
         }
+    }
+
+    /** The static functions that the source calls are some of those that rule 4 lists. */
+    private static void sourceKeepsToTheLibrary(List<String> lines) {
+        Set<String> listed = Set.of("Math.abs", "Math.max", "Math.floorMod", "System.arraycopy");
+        Matcher function = Pattern.compile("\\b[A-Z][A-Za-z]*\\.[a-z]\\w*(?=\\()").matcher(String.join("\n", lines));
+        while (function.find()) {
+            check.holds(function.group() + " is listed", listed.contains(function.group()));
+        }
+    }
+
+    /** A block ends with the first brace that stands no further to the right than its first line. */
+    private static void methodsStayShort(List<String> lines) {
+        for (int first = 0; first < lines.size(); first++) {
+            String line = lines.get(first);
+            if (line.endsWith(") {") || line.endsWith("Exception {")) {
+                int last = first + 1;
+                while (last < lines.size() && !(lines.get(last).contains("}") && indent(lines.get(last)) <= indent(line))) {
+                    last++;
+                }
+                check.holds("the block from line " + (first + 1) + " on has at most 60 lines", last - first < 60);
+            }
+        }
+    }
+
+    private static int indent(String line) {
+        return line.length() - line.stripLeading().length();
     }
 }

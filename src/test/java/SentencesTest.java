@@ -2,7 +2,6 @@ import java.io.IOException;
 import java.lang.reflect.InvocationTargetException;
 import java.lang.reflect.Method;
 import java.nio.file.Files;
-import java.nio.file.Path;
 import java.util.ArrayList;
 import java.util.Arrays;
 import java.util.Comparator;
@@ -15,8 +14,6 @@ import java.util.Map;
  * itself: no test may quote what does not stand there, and no sentence there may be without a test.
  */
 public final class SentencesTest {
-    private static final Path DOCUMENT = Path.of("../shared/DOC.md");
-
     private static final List<Class<?>> TESTS = List.of(TermsSentences.class, HourSentences.class, QuaySentences.class,
             LetterSentences.class, PassSentences.class, AheadSentences.class, RefusalSentences.class);
 
@@ -26,7 +23,7 @@ public final class SentencesTest {
     private static final Check check = new Check();
 
     public static void main(String[] args) throws IOException, IllegalAccessException {
-        Map<String, List<Line>> document = read(Files.readAllLines(DOCUMENT));
+        Map<String, List<Line>> document = read(Files.readAllLines(Document.PATH));
         int tests = 0;
         for (Class<?> group : TESTS) {
             for (Method test : testsOf(group)) {
@@ -35,7 +32,7 @@ public final class SentencesTest {
                 tests++;
             }
         }
-        check.at(DOCUMENT.toString());
+        check.at(Document.PATH.toString());
         document.forEach((place, lines) -> lines.forEach(line -> tellUntested(place, line)));
         System.out.println("  SentencesTest: " + tests + " tests of sentences");
         check.end("SentencesTest");
